@@ -196,7 +196,7 @@ public final class OldWorks {
     public int taking(int what) {
         if (what != NONE && !shop.machines.has(what)) return WIDE_BAD;
         givings.find();
-        return what == NONE ? givings.most() : givings.spareOf(what);
+        return what == NONE ? givings.mostYears() : givings.spareOf(what);
     }
 
     public int odds(int a, int b) {
@@ -267,7 +267,7 @@ public final class OldWorks {
     public int plan(int n, int what) {
         if (!within(n, 1, Plans.MOST_YEARS) || !within(what, NONE, n - 1)) return WIDE_BAD;
         plans.find(n);
-        if (what == NONE) return plans.most();
+        if (what == NONE) return plans.mostRuns();
         int lesson = plans.lessonIn(what);
         return lesson == NONE ? WIDE_NONE : lesson;
     }
@@ -930,69 +930,78 @@ public final class OldWorks {
         private static final int MOST_MACHINES = 6, MOST_SPARES = 9, SETS = 1 << MOST_SPARES;
 
         private final Shop shop;
-        private final int[][] years = new int[MOST_MACHINES + 1][SETS];
+        private final int[][] most = new int[MOST_MACHINES + 1][SETS];
+        private final int[] years = new int[SETS];
+        private final int[] kinds = new int[4];
         private final int[] pairs = new int[4];
+        private int spares;
 
         Givings(Shop shop) {
             this.shop = shop;
         }
 
         void find() {
-            gatherPairs();
+            gatherSpares();
             int machines = Math.min(MOST_MACHINES, shop.machines.rows());
-            int sets = 1 << Math.min(MOST_SPARES, shop.spares.rows());
+            int sets = 1 << spares;
             for (int set = 0; set < sets; set++) {
-                if (Integer.bitCount(set) <= machines) years[machines][set] = together(set);
+                if (Integer.bitCount(set) <= machines) most[machines][set] = parts(set) ? NONE : years[set];
             }
             for (int machine = machines - 1; machine >= 0; machine--) {
                 for (int set = 0; set < sets; set++) {
-                    if (Integer.bitCount(set) <= machine) years[machine][set] = mostOf(machine, set);
+                    if (Integer.bitCount(set) <= machine) most[machine][set] = mostOf(machine, set);
                 }
             }
         }
 
-        private void gatherPairs() {
+        /** By kinds and by pairs the sets of their spares, and the years of every set. */
+        private void gatherSpares() {
+            spares = Math.min(MOST_SPARES, shop.spares.rows());
+            Arrays.fill(kinds, 0);
             Arrays.fill(pairs, 0);
-            for (int spare = 0; spare < shop.spares.rows(); spare++) {
+            years[0] = 0;
+            for (int spare = 0; spare < spares; spare++) {
+                int bit = 1 << spare;
+                int kind = shop.spares.at(spare, Shop.KIND);
                 int pair = shop.spares.at(spare, Shop.PAIR);
-                if (within(pair, 0, pairs.length - 1)) pairs[pair] |= 1 << spare;
+                if (within(kind, 0, kinds.length - 1)) kinds[kind] |= bit;
+                if (within(pair, 0, pairs.length - 1)) pairs[pair] |= bit;
+                int more = shop.spares.at(spare, Shop.YEARS);
+                for (int set = 0; set < bit; set++) years[set | bit] = years[set] + more;
             }
         }
 
-        /** All years of a set, or NONE where a pair would be parted. */
-        private int together(int set) {
+        /** Whether only some spares of a pair are in a set. */
+        private boolean parts(int set) {
             for (int pair : pairs) {
-                if ((set & pair) != 0 && (set & pair) != pair) return NONE;
+                if ((set & pair) != 0 && (set & pair) != pair) return true;
             }
-            int sum = 0;
-            for (int spare = 0; spare < shop.spares.rows(); spare++) {
-                if ((set >> spare & 1) == 1) sum += shop.spares.at(spare, Shop.YEARS);
-            }
-            return sum;
+            return false;
+        }
+
+        /** The spares that a machine may still get. */
+        private int open(int machine, int set) {
+            int kind = shop.machines.at(machine, Shop.KIND);
+            return within(kind, 0, kinds.length - 1) ? kinds[kind] & ~set : 0;
         }
 
         private int mostOf(int machine, int set) {
-            int most = after(machine, set, NONE);
-            for (int spare = 0; spare < shop.spares.rows(); spare++) {
-                most = Math.max(most, after(machine, set, spare));
+            int found = after(machine, set);
+            int open = open(machine, set);
+            for (int spare = 0; spare < spares; spare++) {
+                if ((open >> spare & 1) == 1) found = Math.max(found, after(machine, set | 1 << spare));
             }
-            return most;
+            return found;
         }
 
-        /** The most years if a machine gets this spare (NONE: none); NONE where it can not. */
-        private int after(int machine, int set, int spare) {
-            int next = set;
-            if (spare != NONE) {
-                boolean fits = shop.spares.at(spare, Shop.KIND) == shop.machines.at(machine, Shop.KIND);
-                if (!fits || (set >> spare & 1) == 1) return NONE;
-                next = set | 1 << spare;
-            }
-            if (!within(machine, 0, MOST_MACHINES - 1) || !within(next, 0, SETS - 1)) return NONE;
-            return years[machine + 1][next];
+        /** The most years where so many machines have been looked at and this set is given. */
+        private int after(int machine, int set) {
+            if (!within(machine, 0, MOST_MACHINES - 1) || !within(set, 0, SETS - 1)) return NONE;
+            return most[machine + 1][set];
         }
 
-        int most() {
-            return years[0][0];
+        int mostYears() {
+            return most[0][0];
         }
 
         int spareOf(int asked) {
@@ -1006,8 +1015,10 @@ public final class OldWorks {
         }
 
         private int givenTo(int machine, int set) {
-            for (int spare = NONE; spare < shop.spares.rows(); spare++) {
-                if (after(machine, set, spare) == most()) return spare;
+            if (after(machine, set) == mostYears()) return NONE;
+            int open = open(machine, set);
+            for (int spare = 0; spare < spares; spare++) {
+                if ((open >> spare & 1) == 1 && after(machine, set | 1 << spare) == mostYears()) return spare;
             }
             return NONE;
         }
@@ -1174,19 +1185,23 @@ public final class OldWorks {
     /** THE PLAN: for each year and each set of skills learned before it, the most runs from then on. */
     private static final class Plans {
         static final int MOST_YEARS = 8;
-        private static final int MOST_HANDS = 3, MOST_SKILLS = 4, LESSONS = 48;
-        /** Each skill that can be learned is had by one hand at first: two others may learn it. */
-        private static final int MOST_LEARNED = 8, SETS = 1 << MOST_LEARNED;
+        private static final int MOST_HANDS = 3, MOST_SKILLS = 4, ALL_SKILLS = 15, LAST_LESSON = 47;
+        /** Each skill that can be learned is had by one hand at first: two others may learn it, from two each. */
+        private static final int MOST_LEARNED = 8, MOST_LESSONS = 16, SETS = 1 << MOST_LEARNED;
 
         private final Shop shop;
-        private final int[] lessons = new int[LESSONS];
-        /** By 4 times the hand and the skill: the bit of the set that tells whether it was learned, or 0. */
+        private final int[] lessons = new int[MOST_LESSONS];
+        /** By lessons: the bit of a set that tells whether it was learned. */
+        private final int[] learns = new int[MOST_LESSONS];
+        /** By 4 times the hand and the skill: its bit of a set, 0 where there is nothing to learn. */
         private final int[] bits = new int[MOST_HANDS * MOST_SKILLS];
         /** By sets: four bits of skills for each hand. */
         private final int[] skilled = new int[SETS];
-        private final int[] runsOf = new int[1 << MOST_SKILLS];
-        private final int[][] runs = new int[MOST_YEARS + 1][SETS];
-        private int lessonsMany;
+        private final int[] runsOf = new int[ALL_SKILLS + 1];
+        /** By years: a bit for each hand who is there. */
+        private final int[] there = new int[MOST_YEARS];
+        private final int[][] most = new int[MOST_YEARS + 1][SETS];
+        private int many;
         private int learned;
         private int years;
 
@@ -1199,19 +1214,21 @@ public final class OldWorks {
             chooseBits();
             chooseLessons();
             chooseRuns();
-            int sets = 1 << Math.min(MOST_LEARNED, learned);
-            for (int set = 0; set < sets; set++) runs[years][set] = 0;
+            chooseYears();
+            int sets = 1 << Math.max(0, Math.min(MOST_LEARNED, learned));
+            for (int set = 0; set < sets; set++) most[years][set] = 0;
             for (int year = years - 1; year >= 0; year--) {
                 for (int set = 0; set < sets; set++) {
-                    if (Integer.bitCount(set) <= year) runs[year][set] = mostOf(year, set);
+                    if (Integer.bitCount(set) <= year) most[year][set] = mostOf(year, set);
                 }
             }
         }
 
-        private boolean knows(int all, int hand, int skill) {
+        private static boolean knows(int all, int hand, int skill) {
             return (all >> MOST_SKILLS * hand + skill & 1) == 1;
         }
 
+        /** What may be learned. A skill that no run needs is never worth a lesson: nobody comes first. */
         private void chooseBits() {
             int all = 0;
             int any = 0;
@@ -1224,9 +1241,10 @@ public final class OldWorks {
             for (int i = 0; i < bits.length; i++) {
                 int hand = i / MOST_SKILLS;
                 int skill = i % MOST_SKILLS;
-                bits[i] = 0;
                 boolean lacks = hand < shop.hands.rows() && !knows(all, hand, skill);
-                if (!lacks || (any >> skill & 1) == 0 || !within(learned, 0, MOST_LEARNED - 1)) continue;
+                boolean useful = (any >> skill & 1) == 1 && shop.runs.at(skill, 0) > 0;
+                bits[i] = 0;
+                if (!lacks || !useful || !within(learned, 0, MOST_LEARNED - 1)) continue;
                 bits[i] = 1 << learned;
                 for (int set = 0; set < bits[i]; set++) skilled[set | bits[i]] = skilled[set] | 1 << i;
                 learned++;
@@ -1235,25 +1253,22 @@ public final class OldWorks {
 
         /** Whatever may ever be taught, in the order of THE PLAN's rows. */
         private void chooseLessons() {
-            lessonsMany = 0;
-            for (int lesson = 0; lesson < LESSONS; lesson++) {
+            many = 0;
+            for (int lesson = 0; lesson <= LAST_LESSON; lesson++) {
                 int who = lesson >> 4;
                 int whom = lesson & 3;
-                if (who == whom || !shop.hands.has(who) || !shop.hands.has(whom)) continue;
-                if (bitOf(lesson) != 0 && lessonsMany < lessons.length) {
-                    lessons[lessonsMany] = lesson;
-                    lessonsMany++;
+                int place = MOST_SKILLS * whom + (lesson >> 2 & 3);
+                if (who == whom || !shop.hands.has(who) || !within(place, 0, bits.length - 1)) continue;
+                if (bits[place] != 0 && within(many, 0, MOST_LESSONS - 1)) {
+                    lessons[many] = lesson;
+                    learns[many] = bits[place];
+                    many++;
                 }
             }
         }
 
-        private int bitOf(int lesson) {
-            int place = MOST_SKILLS * (lesson & 3) + (lesson >> 2 & 3);
-            return within(place, 0, bits.length - 1) ? bits[place] : 0;
-        }
-
         private void chooseRuns() {
-            for (int skills = 0; skills < runsOf.length; skills++) {
+            for (int skills = 0; skills <= ALL_SKILLS; skills++) {
                 runsOf[skills] = 0;
                 for (int skill = 0; skill < MOST_SKILLS; skill++) {
                     if ((skills >> skill & 1) == 1) runsOf[skills] += shop.runs.at(skill, 0);
@@ -1261,61 +1276,68 @@ public final class OldWorks {
             }
         }
 
-        private int mostOf(int year, int set) {
-            int most = after(year, set, NONE);
-            for (int i = 0; i < lessonsMany && i < lessons.length; i++) {
-                most = Math.max(most, after(year, set, lessons[i]));
+        private void chooseYears() {
+            for (int year = 0; year < MOST_YEARS; year++) {
+                there[year] = 0;
+                for (int hand = 0; hand < shop.hands.rows(); hand++) {
+                    if (year < shop.hands.at(hand, Shop.LEAVES)) there[year] |= 1 << hand;
+                }
             }
-            return most;
         }
 
-        /** The most runs from a year on in which this is taught (NONE: nothing); NONE where it can not be. */
-        private int after(int year, int set, int lesson) {
+        private int mostOf(int year, int set) {
+            int found = idle(year, set);
+            for (int i = 0; i < many; i++) found = Math.max(found, taught(year, set, i));
+            return found;
+        }
+
+        /** The most runs from a year on in which nobody teaches. */
+        private int idle(int year, int set) {
             if (!within(year, 0, MOST_YEARS - 1) || !within(set, 0, SETS - 1)) return NONE;
-            if (lesson == NONE) return runsIn(year, set, NONE, NONE) + runs[year + 1][set];
-            int who = lesson >> 4;
-            int whom = lesson & 3;
-            int bit = bitOf(lesson);
-            boolean there = isThere(who, year) && isThere(whom, year);
-            if (!there || (set & bit) != 0 || !knows(skilled[set], who, lesson >> 2 & 3)) return NONE;
-            int next = set | bit;
-            if (!within(next, 0, SETS - 1)) return NONE;
-            return runsIn(year, set, who, whom) + runs[year + 1][next];
+            return runsBy(there[year], set) + most[year + 1][set];
         }
 
-        private boolean isThere(int hand, int year) {
-            return year < shop.hands.at(hand, Shop.LEAVES);
+        /** The most runs from a year on with the i-th lesson in it; NONE where it can not be. */
+        private int taught(int year, int set, int i) {
+            if (!within(i, 0, MOST_LESSONS - 1)) return NONE;
+            if (!within(year, 0, MOST_YEARS - 1) || !within(set, 0, SETS - 1)) return NONE;
+            int who = lessons[i] >> 4;
+            int busy = 1 << who | 1 << (lessons[i] & 3);
+            int next = set | learns[i];
+            if ((there[year] & busy) != busy || next == set || next >= SETS) return NONE;
+            if (!knows(skilled[set], who, lessons[i] >> 2 & 3)) return NONE;
+            return runsBy(there[year] & ~busy, set) + most[year + 1][next];
         }
 
-        private int runsIn(int year, int set, int who, int whom) {
+        private int runsBy(int free, int set) {
             if (!within(set, 0, SETS - 1)) return 0;
             int skills = 0;
-            for (int hand = 0; hand < shop.hands.rows(); hand++) {
-                if (hand == who || hand == whom || !isThere(hand, year)) continue;
-                skills |= skilled[set] >> MOST_SKILLS * hand;
+            for (int hand = 0; hand < MOST_HANDS; hand++) {
+                if ((free >> hand & 1) == 1) skills |= skilled[set] >> MOST_SKILLS * hand;
             }
-            return runsOf[skills & runsOf.length - 1];
+            return runsOf[skills & ALL_SKILLS];
         }
 
-        int most() {
-            return runs[0][0];
+        int mostRuns() {
+            return most[0][0];
         }
 
         int lessonIn(int asked) {
             int set = 0;
             for (int year = 0; year < years; year++) {
-                int lesson = lessonOf(year, set);
-                if (year == asked) return lesson;
-                if (lesson != NONE) set |= bitOf(lesson);
+                int i = bestIn(year, set);
+                boolean any = within(i, 0, MOST_LESSONS - 1);
+                if (year == asked) return any ? lessons[i] : NONE;
+                if (any) set |= learns[i];
             }
             return NONE;
         }
 
-        private int lessonOf(int year, int set) {
-            if (!within(year, 0, MOST_YEARS) || !within(set, 0, SETS - 1)) return NONE;
-            if (after(year, set, NONE) == runs[year][set]) return NONE;
-            for (int i = 0; i < lessonsMany && i < lessons.length; i++) {
-                if (after(year, set, lessons[i]) == runs[year][set]) return lessons[i];
+        private int bestIn(int year, int set) {
+            int best = mostOf(year, set);
+            if (idle(year, set) == best) return NONE;
+            for (int i = 0; i < many; i++) {
+                if (taught(year, set, i) == best) return i;
             }
             return NONE;
         }

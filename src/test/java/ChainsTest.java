@@ -8,6 +8,7 @@ public final class ChainsTest {
         promise16();
         promise17();
         promise18();
+        promise18Last();
         promise18Ties();
         Due.end("ChainsTest");
     }
@@ -113,6 +114,12 @@ public final class ChainsTest {
         Due.is("off", x.link(1, 0, true), 2);
         Due.is("all chains: 160 and 60", x.stands(3, 1, 40), 0);
         Due.is("with what it is with", x.stands(0, 1, 0), 0);
+        OldWorks y = withParts(3);
+        Due.is("a chain without it", y.chain(5, 6), 0);
+        Due.is("its chain", y.chain(99, 101), 1);
+        Due.is("link", y.link(1, 0, false), 1);
+        Due.is("does not fit", y.stands(2, 0, 0), 0);
+        Due.is("in none", y.stands(0, 2, 0), 1);
         OldWorks z = withParts(3);
         Due.is("chain", z.chain(-100000, 100000), 0);
         Due.is("link", z.link(0, 0, false), 1);
@@ -202,6 +209,16 @@ public final class ChainsTest {
         Due.is("by numbers", x.way(61, 153, 154, 0), 0);
         Due.is("by numbers", x.way(61, 153, 154, 1), 2);
         Due.is("by numbers", x.way(61, 153, 154, 2), 3);
+    }
+
+    private static void promise18Last() {
+        OldWorks x = new OldWorks();
+        for (int i = 0; i < 7; i++) Due.is("for other sizes", x.work(1, 1, 2000 * (i % 2) + 1, 2000 * (i % 2) + 9), i);
+        Due.is("the last", x.work(1, 1000, 1, 3000), 7);
+        Due.is("five of the last", x.way(20, 25, 25, -1), 5000);
+        for (int i = 0; i < 5; i++) Due.is("five of the last", x.way(20, 25, 25, i), 7);
+        Due.is("within 3000", x.way(2996, 3000, 3000, -2), 4);
+        Due.is("within 3000", x.way(2996, 3000, 3000, 4), -1);
     }
 
     private static void promise18Ties() {

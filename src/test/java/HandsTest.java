@@ -6,6 +6,7 @@ public final class HandsTest {
         promise34();
         promise34Leaving();
         promise34Ties();
+        promise34All();
         Due.end("HandsTest");
     }
 
@@ -83,6 +84,27 @@ public final class HandsTest {
         Due.is("not there at all", y.hand(15, 0), 0);
         Due.is("there", y.hand(0, 9), 1);
         years(y, 8, 0, -5, -5);
+    }
+
+    /** Eight lessons in eight years, so that all that can be learned is learned. */
+    private static void promise34All() {
+        OldWorks x = new OldWorks();
+        for (int skill = 0; skill < 4; skill++) Due.is("need", x.need(skill, 1), 0);
+        Due.is("leaves in 8", x.hand(15, 8), 0);
+        Due.is("leaves in 9", x.hand(0, 9), 1);
+        Due.is("leaves in 9", x.hand(0, 9), 2);
+        // a lesson by the first stops all until the third knows something
+        Due.is("eight years", x.plan(8, -1), 32);
+        OldWorks z = new OldWorks();
+        for (int skill = 0; skill < 4; skill++) Due.is("need", z.need(skill, 9), 0);
+        Due.is("leaves in 4", z.hand(15, 4), 0);
+        Due.is("leaves in 5", z.hand(0, 8), 1);
+        Due.is("stays", z.hand(0, 9), 2);
+        // two to the second, then two to the third while the second works
+        years(z, 8, 2 * 18 + 4 * 36, 1, 5, 10, 14, -5, -5, -5, -5);
+        Due.is("one skill needed no more", z.need(0, 0), 9);
+        // the second hands on what it learned, so that the first works on: 0, 9, 27, 18
+        years(z, 8, 54 + 4 * 27, 5, 10, 22, 13, -5, -5, -5, -5);
     }
 
     private static void promise34Ties() {

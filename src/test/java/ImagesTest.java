@@ -3,6 +3,7 @@ public final class ImagesTest {
     public static void main(String[] args) {
         promise35();
         promise36();
+        promise36Anew();
         promise36Fraction();
         promise37();
         promise38();
@@ -89,6 +90,23 @@ public final class ImagesTest {
         Due.is("from the first", x.from(0), 1);
         Due.is("three parts", x.count(0), 3);
         Due.holds("not a new object", x.digest() != empty);
+    }
+
+    /** What comes behind an image comes as new, whatever stood there before. */
+    private static void promise36Anew() {
+        OldWorks x = full();
+        Due.is("image", x.image(0), 1);
+        for (int round = 0; round < 2; round++) {
+            Due.is("part", x.part(1, 2, 3, -1), 2);
+            Due.is("nothing bears on it", x.along(2), 0);
+            Due.is("bear", x.bear(0, 2, true), 1);
+            Due.is("say", x.say(2, 1, 9, 0, 0), 3);
+            Due.is("not denied", x.deny(3, false), -3);
+            Due.is("deny", x.deny(3, true), 1);
+            Due.is("chain", x.chain(0, 0), 1);
+            Due.is("link", x.link(1, 2, true), 1);
+            Due.is("from", x.from(0), 1);
+        }
     }
 
     private static void promise36Fraction() {

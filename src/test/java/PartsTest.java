@@ -12,7 +12,9 @@ public final class PartsTest {
         promise8();
         promise9();
         promise10();
+        promise10Sixty();
         promise11();
+        promise11Least();
         Due.end("PartsTest");
     }
 
@@ -227,6 +229,13 @@ public final class PartsTest {
         worn("0007", 7);
         worn("1 < 2 & 3 < 4", 1);
         worn("1<2|1/0", 1);
+        worn("(0|3)*7", 7);
+        worn("(0|0)*7+2", 2);
+        worn("(2&3|0)*7", 7);
+        worn("2*(3+4)*5", 70);
+        worn("9-(3-(2-1))", 7);
+        worn("1|2=3", 1);
+        worn("5&2>1", 1);
         worn("999999*999999*999999*999999/-999999/999999/999", wrapped());
     }
 
@@ -301,6 +310,56 @@ public final class PartsTest {
         Due.is("none", x.first(0, 1), -1);
         Due.is("none", x.first(0, 2), 0);
         Due.is("least below 1", x.first(1, 0), -1);
+    }
+
+    private static void promise10Sixty() {
+        OldWorks x = withPart(0, 1, 0, -1);
+        for (int i = 0; i < 59; i++) Due.is("saying", x.say(0, 1, 500 + i, 100, 0), i);
+        Due.is("least", x.first(0, 0), 458);
+        Due.is("greatest", x.first(0, 1), 600);
+        Due.is("the sixtieth", x.say(0, 1, 300, 160, 0), 59);
+        Due.is("least", x.first(0, 0), 458);
+        Due.is("greatest", x.first(0, 1), 460);
+        Due.is("bounds far out", x.deny(59, true), 1);
+        Due.is("sorts", x.first(0, 2), 143);
+        OldWorks z = withPart(0, 1, 0, -1);
+        Due.is("nothing allows it", z.say(0, 2, 0, 0, 0), 0);
+        Due.is("nothing allows it", z.first(0, 2), 0);
+        Due.is("not any more", z.deny(0, true), 1);
+        Due.is("the greatest alone", z.say(0, 3, 100000, 0, 0), 1);
+        Due.is("the greatest alone", z.first(0, 0), 100000);
+        Due.is("the least alone", z.deny(1, true), 1);
+        Due.is("the least alone", z.say(0, 2, 1, 0, 0), 2);
+        Due.is("the least alone", z.first(0, 1), 1);
+        Due.write(z, "10000");
+        Due.is("deny", z.deny(2, true), 1);
+        Due.is("measure", z.say(0, 0, -10000, 1, 0), 3);
+        Due.is("worn 10000", z.first(0, 2), 1);
+        Due.is("measure", z.say(0, 0, 100000, 10000, 0), 4);
+        Due.is("worn 10000", z.first(0, 2), 0);
+        Due.is("deny", z.deny(3, true), 1);
+        Due.is("worn 10000", z.first(0, 0), 100000);
+    }
+
+    private static void promise11Least() {
+        for (int turn = 0; turn < 2; turn++) {
+            OldWorks x = withPart(0, 1, 0, 0);
+            Due.is("family", x.family(0, 100, 10, 11), 1);
+            Due.is("say", x.say(0, 1, turn == 0 ? 180 : 130, 5, 0), 0);
+            Due.is("say", x.say(0, 1, turn == 0 ? 130 : 180, 5, 0), 1);
+            Due.is("one against either: the least", x.quarrel(0, -3), 130);
+            Due.is("the other one", x.quarrel(0, 0), 1 - (turn == 0 ? 1 : 0));
+        }
+        OldWorks x = withPart(0, 1, 0, 0);
+        Due.is("family", x.family(0, 100, 10, 11), 1);
+        Due.is("behind the last", x.say(0, 3, 201, 0, 0), 0);
+        Due.is("the last", x.say(0, 1, 205, 5, 0), 1);
+        Due.is("the last", x.quarrel(0, -3), 200);
+        Due.is("against it", x.quarrel(0, -1), 1);
+        Due.is("against it", x.quarrel(0, 0), 0);
+        Due.is("the least two", x.say(0, 2, 110, 0, 0), 2);
+        Due.is("the least two", x.say(0, 2, 109, 0, 0), 3);
+        Due.is("the least", x.quarrel(0, -3), 100);
     }
 
     private static void promise11() {

@@ -87,6 +87,10 @@ public final class SparesTest {
         for (int i = 0; i < 6; i++) Due.is("machine", z.machine(2), i);
         for (int i = 0; i < 9; i++) Due.is("spare", z.spare(2, 50 - i, -1), i);
         row(z, 50 + 49 + 48 + 47 + 46 + 45, 0, 1, 2, 3, 4, 5);
+        OldWorks y = new OldWorks();
+        for (int i = 0; i < 6; i++) Due.is("machine", y.machine(i % 2), i);
+        for (int i = 0; i < 9; i++) Due.is("spare", y.spare(i % 2, 42 + i, -1), i);
+        row(y, 42 + 3 + 4 + 5 + 6 + 7 + 8 + 5 * 42, 4, 3, 6, 5, 8, 7);
     }
 
     private static void promise22Pairs() {
@@ -104,6 +108,7 @@ public final class SparesTest {
         row(x, 4, 3, 4);
         Due.is("its machine", x.machine(1), 2);
         row(x, 103, 0, 2, 1);
+        Due.is("of a pair and of none", x.taking(-1), 103);
         Due.is("three in a pair, too", x.spare(0, 1, 0), 5);
         row(x, 101, 0, 5, 1);
     }
