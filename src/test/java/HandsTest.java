@@ -70,6 +70,8 @@ public final class HandsTest {
         // nobody first: to teach in the third year, 2, is the first row
         years(x, 5, 20, -5, -5, 16 * 0 + 4 * 2 + 1, -5, -5);
         years(x, 8, 35, -5, -5, 9, -5, -5, -5, -5, -5);
+        Due.is("need 1", x.need(2, 1), 5);
+        years(x, 8, 7, -5, -5, 9, -5, -5, -5, -5, -5);
         OldWorks z = new OldWorks();
         Due.is("need", z.need(2, 5), 0);
         Due.is("need", z.need(3, 5), 0);

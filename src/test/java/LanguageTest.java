@@ -35,6 +35,7 @@ public final class LanguageTest {
         Class<?>[] inside = OldWorks.class.getDeclaredClasses();
         Due.holds("at most twelve classes", inside.length + 1 <= 12);
         for (Class<?> c : inside) inside(c);
+        names(OldWorks.class);
         fields(OldWorks.class);
         source(plain(Files.readString(Path.of("src/main/java/OldWorks.java"))));
         Due.end("LanguageTest");
@@ -72,14 +73,19 @@ public final class LanguageTest {
     private static void inside(Class<?> c) {
         Due.holds(c + " is static", Modifier.isStatic(c.getModifiers()));
         Due.holds(c + " is not public", !Modifier.isPublic(c.getModifiers()) && !Modifier.isProtected(c.getModifiers()));
+        names(c);
+        fields(c);
+        Due.is(c + " has classes inside", c.getDeclaredClasses().length, 0);
+    }
+
+    private static void names(Class<?> c) {
         Set<String> names = new TreeSet<>();
         for (String signature : FACE) names.add(signature.replaceAll("^\\w+ |\\(.*", ""));
         for (Method m : c.getDeclaredMethods()) {
-            Due.holds(c + " " + m.getName() + " is no public name", !names.contains(m.getName()));
+            boolean open = Modifier.isPublic(m.getModifiers());
+            Due.holds(c + " " + m.getName() + " is no public name", open || !names.contains(m.getName()));
             Due.holds(c + " " + m.getName() + " takes at most seven", m.getParameterCount() <= 7);
         }
-        fields(c);
-        Due.is(c + " has classes inside", c.getDeclaredClasses().length, 0);
     }
 
     private static void fields(Class<?> c) {

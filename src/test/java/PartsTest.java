@@ -350,6 +350,13 @@ public final class PartsTest {
             Due.is("one against either: the least", x.quarrel(0, -3), 130);
             Due.is("the other one", x.quarrel(0, 0), 1 - (turn == 0 ? 1 : 0));
         }
+        OldWorks z = withPart(0, 1, 0, 0);
+        Due.is("family", z.family(0, 100, 10, 11), 1);
+        Due.is("its upper bound is allowed", z.say(0, 2, 100, 0, 0), 0);
+        Due.is("its lower bound is allowed", z.say(0, 3, 150, 0, 0), 1);
+        Due.is("the least", z.quarrel(0, -3), 100);
+        Due.is("against it", z.quarrel(0, 0), 1);
+        Due.is("one against it", z.quarrel(0, 1), -1);
         OldWorks x = withPart(0, 1, 0, 0);
         Due.is("family", x.family(0, 100, 10, 11), 1);
         Due.is("behind the last", x.say(0, 3, 201, 0, 0), 0);

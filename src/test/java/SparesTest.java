@@ -90,6 +90,10 @@ public final class SparesTest {
         OldWorks y = new OldWorks();
         for (int i = 0; i < 6; i++) Due.is("machine", y.machine(i % 2), i);
         for (int i = 0; i < 9; i++) Due.is("spare", y.spare(i % 2, 42 + i, -1), i);
+        OldWorks w = new OldWorks();
+        for (int kind = 0; kind < 4; kind++) Due.is("machine", w.machine(kind), kind);
+        for (int kind = 3; kind >= 0; kind--) Due.is("spare", w.spare(kind, 10 + kind, -1), 3 - kind);
+        row(w, 46, 3, 2, 1, 0);
         row(y, 42 + 3 + 4 + 5 + 6 + 7 + 8 + 5 * 42, 4, 3, 6, 5, 8, 7);
     }
 
