@@ -222,11 +222,11 @@ public final class PlainWorks {
         return 1;
     }
 
-    private List<Integer> sizesOf(int part) {
+    private int[] sizesOf(int part) {
         int family = parts.get(part)[3];
         int[] f = family < 0 ? new int[] {1, 1, 100000} : families[family];
-        List<Integer> sizes = new ArrayList<>();
-        for (int i = 0; i < f[2]; i++) sizes.add(f[0] + i * f[1]);
+        int[] sizes = new int[f[2]];
+        for (int i = 0; i < f[2]; i++) sizes[i] = f[0] + i * f[1];
         return sizes;
     }
 
@@ -253,7 +253,9 @@ public final class PlainWorks {
             List<int[]> counting = countingOf(p);
             List<Integer> sizes = new ArrayList<>();
             for (int size : sizesOf(p)) {
-                if (counting.stream().allMatch(s -> allows(s, size))) sizes.add(size);
+                boolean all = true;
+                for (int[] s : counting) all &= allows(s, size);
+                if (all) sizes.add(size);
             }
             return sizes;
         });
