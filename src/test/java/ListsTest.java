@@ -9,17 +9,21 @@ public final class ListsTest {
         quarrel();
         chains();
         linksAndParts();
+        everyPart();
         works();
         way();
         machinesAndSpares();
         moreMachinesThanSpares();
         pairs();
+        pairsAnew();
         told();
         bears();
         limbs();
         hands();
         plan();
+        everyLesson();
         images();
+        imagesAnew();
         Due.end("ListsTest");
     }
 
@@ -137,6 +141,20 @@ public final class ListsTest {
         x.due("sum 0 10 0", -320 + 10 - 20 + 40 - 80 + 160 - 15);
     }
 
+    /** Each of the 24 parts is in a chain of six. */
+    private static void everyPart() {
+        Both x = new Both();
+        for (int i = 0; i < 24; i++) x.go("part 0 1 " + i + " -1;say " + i + " 1 " + (10 << i % 6) + " 0 0");
+        for (int chain = 0; chain < 4; chain++) {
+            x.go("chain 600 630");
+            for (int i = 0; i < 6; i++) x.go("link " + chain + " " + (6 * chain + i) + " f");
+            x.due("sum " + chain + " 0 0", 630).due("sum " + chain + " 0 1", 630).due("sum " + chain + " 0 2", 1);
+            // in the year 6 after the first was put in: 6, 5, 4, 3, 2, 1
+            x.due("sum " + chain + " " + (6 * chain + 6) + " 0", 609).due("life " + chain + " 0", 6 * chain + 8);
+        }
+        x.due("stands 23 0 0", 0).due("stands 18 0 0", 1).due("stands 18 6 20", 0).due("stands 0 18 22", 1).due("stands 0 18 23", 0);
+    }
+
     private static void works() {
         Both x = new Both().due("count 4", 0).due("way 5 5 5 -1", 0).due("way 5 6 6 -1", -5);
         x.due("work 1 9 5 5", 0).due("count 4", 1).due("way 5 6 6 -1", 9).due("way 5 7 7 -1", -5);
@@ -208,6 +226,15 @@ public final class ListsTest {
         z.go("spare 0 1 0;spare 0 1 3").due("taking -1", 2).due("taking 4", 7).due("taking 5", 8);
     }
 
+    /** What was paired before all spares went, or before the works went on from an image, is paired no more. */
+    private static void pairsAnew() {
+        Both x = new Both().go("image 0;machine 0;machine 0;spare 0 5 1;spare 0 6 1;spare 1 9 3").due("taking -1", 11);
+        x.due("scrap", 5).go("machine 0;spare 0 7 1").due("taking -1", 7).due("taking 0", 0);
+        x.due("spare 0 8 -1", 1).due("taking -1", 8).due("taking 0", 1).due("spare 1 8 1", 2).due("taking -1", 8);
+        x.due("from 0", 1).due("taking -1", 0).go("machine 1;spare 1 4 1;spare 0 9 2").due("taking -1", 4);
+        x.due("machine 0", 1).due("taking -1", 13).due("taking 0", 0).due("taking 1", 1);
+    }
+
     private static void told() {
         Both x = new Both().due("count 7", 0).due("fitted", 0);
         x.due("told 0 t", 1).due("count 7", 1).due("fitted", 90);
@@ -223,6 +250,11 @@ public final class ListsTest {
         Both w = new Both().due("told 0 f", 1).due("fitted", 10);
         for (int i = 2; i <= 40; i++) w.due("told " + (i % 2 * 100) + " " + (i % 4 > 1 ? "t" : "f"), i);
         w.ask("fitted");
+        // like odds of A and of B: the first by A; odds of 0 may not be
+        new Both().go("told 1 f").due("fitted", 1).go("told 0 f").due("fitted", 10);
+        new Both().go("told 2 f").due("fitted", 10);
+        new Both().go("told 1 t").due("fitted", 99).go("told 1 f").due("fitted", 99);
+        new Both().go("told 100 t").due("fitted", 99).go("told 100 f").due("fitted", 5);
     }
 
     /** 22 parts: each bears on each other one. */
@@ -281,6 +313,36 @@ public final class ListsTest {
         // who learns in the last year before the other leaves, works on alone; one year later it is too late
         Both w = new Both().go("hand 4 2;hand 0 3;need 2 6").due("plan 3 -1", 12).due("plan 3 1", -5);
         w.go("hand 0 9").due("plan 3 -1", 12).due("plan 4 -1", 18).due("plan 4 0", -5).due("plan 4 1", 8 + 2);
+    }
+
+    /** One year to teach in, and each time another lesson is the only one worth it. */
+    private static void everyLesson() {
+        for (int who = 0; who < 3; who++) {
+            for (int skill = 0; skill < 4; skill++) {
+                for (int whom = 0; whom < 3; whom++) {
+                    if (who == whom) continue;
+                    Both x = new Both();
+                    for (int i = 0; i < 3; i++) x.go("hand " + (i == who ? "15 1" : i == whom ? "0 9" : "0 1"));
+                    for (int i = 0; i < 4; i++) x.due("need " + i + " " + (i == skill ? 9 : 1), 0);
+                    x.due("plan 8 -1", 63).due("plan 8 0", 16 * who + 4 * skill + whom).due("plan 8 1", -5);
+                    x.due("plan 2 -1", 12).due("plan 2 0", -5);
+                }
+            }
+        }
+    }
+
+    /** From an image on, what was there behind it is gone, whatever was asked before. */
+    private static void imagesAnew() {
+        Both x = new Both().go("need 0 5;image 0;hand 1 9;hand 1 9").due("plan 8 -1", 40).due("from 0", 1);
+        x.due("plan 8 -1", 0).due("hand 1 2", 0).due("plan 8 -1", 10).due("hand 0 9", 1).due("plan 8 -1", 35);
+        x.due("plan 8 0", -5).due("plan 8 1", 1).due("from 0", 1).due("hand 2 9", 0).due("plan 8 -1", 0);
+        Both z = new Both().go("part 5 5 0 1;image 1;family 1 3 3 3;say 0 2 8 0 0;chain 0 9;link 0 0 f");
+        z.due("sum 0 0 1", 6).write("l+1").due("worn 0 9", 6).due("sum 0 9 1", 0).due("from 1", 1).due("worn 0 9", 9);
+        z.due("first 0 1", 100000).due("quarrel 0 -3", 1).due("count 3", 0).due("chain 3 4", 0).due("sum 0 0 0", 0);
+        z.due("link 0 0 t", 1).due("sum 0 9 0", 9 - 100000).due("sum 0 9 1", 8).due("fault", 1).due("say 0 1 7 1 0", 0);
+        z.due("sum 0 9 0", 1).due("sum 0 9 1", 3).due("sum 0 9 2", 0).due("from 0", -3).due("from 1", 1).due("count 1", 0);
+        z.go("work 1 1 1 3000;part 1 1 1 1;bear 1 0 t").due("along 0", 2).due("way 1 2 2 0", 0).due("from 1", 1);
+        z.due("way 1 2 2 0", -5).due("along 0", 0).go("part 1 1 1 1").due("bear 1 0 f", -3).due("along 0", 0);
     }
 
     private static void images() {
