@@ -315,20 +315,25 @@ public final class ListsTest {
         w.go("hand 0 9").due("plan 3 -1", 12).due("plan 4 -1", 18).due("plan 4 0", -5).due("plan 4 1", 8 + 2);
     }
 
-    /** One year to teach in, and each time another lesson is the only one worth it. */
+    /** One year to teach in, and each time another lesson is the only one worth it; also where nobody has a skill. */
     private static void everyLesson() {
         for (int who = 0; who < 3; who++) {
-            for (int skill = 0; skill < 4; skill++) {
-                for (int whom = 0; whom < 3; whom++) {
-                    if (who == whom) continue;
-                    Both x = new Both();
-                    for (int i = 0; i < 3; i++) x.go("hand " + (i == who ? "15 1" : i == whom ? "0 9" : "0 1"));
-                    for (int i = 0; i < 4; i++) x.due("need " + i + " " + (i == skill ? 9 : 1), 0);
-                    x.due("plan 8 -1", 63).due("plan 8 0", 16 * who + 4 * skill + whom).due("plan 8 1", -5);
-                    x.due("plan 2 -1", 12).due("plan 2 0", -5);
+            for (int whom = 0; whom < 3; whom++) {
+                for (int skill = 0; skill < 4; skill++) {
+                    for (int lost = -1; who != whom && lost < 4; lost++) {
+                        if (lost != skill) lesson(who, whom, skill, lost < 0 ? 15 : 15 - (1 << lost));
+                    }
                 }
             }
         }
+    }
+
+    private static void lesson(int who, int whom, int skill, int skills) {
+        Both x = new Both();
+        for (int i = 0; i < 3; i++) x.go("hand " + (i == who ? skills + " 1" : i == whom ? "0 9" : "0 1"));
+        for (int i = 0; i < 4; i++) x.due("need " + i + " " + (i == skill ? 9 : 1), 0);
+        x.due("plan 8 -1", 63).due("plan 8 0", 16 * who + 4 * skill + whom).due("plan 8 1", -5);
+        x.due("plan 2 -1", 8 + Integer.bitCount(skills)).due("plan 2 0", -5);
     }
 
     /** From an image on, what was there behind it is gone, whatever was asked before. */
