@@ -872,6 +872,7 @@ public final class OldWorks {
         }
 
         private void look(int now, int done, int low, int high) {
+            if (!within(now, 0, 1)) return;
             int found = NONE;
             for (int i = 0; i < many[now] && i < LAST_WAY_SIZE; i++) {
                 int size = reached[now][i];
@@ -886,6 +887,7 @@ public final class OldWorks {
         }
 
         private void spread(int now) {
+            if (!within(now, 0, 1)) return;
             for (int i = 0; i < many[now] && i < LAST_WAY_SIZE; i++) {
                 int size = reached[now][i];
                 if (!within(size, 1, LAST_WAY_SIZE)) continue;
@@ -913,6 +915,7 @@ public final class OldWorks {
         }
 
         private void forget(int now) {
+            if (!within(now, 0, 1)) return;
             for (int i = 0; i < many[now] && i < LAST_WAY_SIZE; i++) {
                 int size = reached[now][i];
                 if (within(size, 1, LAST_WAY_SIZE)) best[now][size] = NONE;

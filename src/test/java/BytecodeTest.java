@@ -1,6 +1,7 @@
 import java.io.InputStream;
 import java.lang.reflect.Array;
 import java.lang.reflect.Field;
+import java.lang.reflect.Method;
 import java.lang.reflect.Modifier;
 import java.util.ArrayList;
 import java.util.HashMap;
@@ -32,6 +33,7 @@ public final class BytecodeTest {
         for (ClassFile.Code code : METHODS.values()) {
             Due.holds(code.name + " calls at most eight deep", depth(code, new ArrayList<>()) <= DEEPEST);
         }
+        for (Class<?> c : classes) types(c, classes);
         room();
         Due.end("BytecodeTest");
     }
@@ -66,6 +68,22 @@ public final class BytecodeTest {
         }
         open.remove(code.name);
         return 1 + deepest;
+    }
+
+    /** Numbers, truths, classes of its own, arrays of numbers or truths: of two dimensions at most. */
+    private static boolean fair(Class<?> type, List<Class<?>> own) {
+        if (!type.isArray()) return type.isPrimitive() && type != double.class && type != float.class || own.contains(type);
+        Class<?> inner = type.getComponentType();
+        if (!inner.isArray()) return fair(inner, own) && !own.contains(inner);
+        return inner.getComponentType().isPrimitive() && inner.getComponentType() != boolean.class && fair(inner, own);
+    }
+
+    private static void types(Class<?> c, List<Class<?>> own) {
+        for (Field field : c.getDeclaredFields()) Due.holds(field + " has a fair type", fair(field.getType(), own));
+        for (Method m : c.getDeclaredMethods()) {
+            Due.holds(m + " answers a fair type", fair(m.getReturnType(), own));
+            for (Class<?> type : m.getParameterTypes()) Due.holds(m + " takes fair types", fair(type, own));
+        }
     }
 
     private static final Map<Object, Boolean> SEEN = new IdentityHashMap<>();

@@ -115,7 +115,24 @@ public final class LanguageTest {
         while (used.find()) Due.holds(used.group(), LIBRARY.contains(used.group()));
         Matcher imported = Pattern.compile("import ([^;]+);").matcher(text);
         while (imported.find()) Due.holds(imported.group(), imported.group(1).equals("java.util.Arrays"));
+        loops(text);
         methods(text.split("\n"));
+    }
+
+    /** Every loop counts against a bound, or goes over an array. */
+    private static void loops(String text) {
+        Due.holds("no while, no do", !Pattern.compile("\\b(while|do)\\b").matcher(text).find());
+        Matcher loop = Pattern.compile("\\bfor \\((.*)").matcher(text);
+        int many = 0;
+        while (loop.find()) {
+            String head = loop.group(1);
+            boolean over = head.matches("int \\w+ : \\w+\\) .*");
+            boolean up = head.matches("int (\\w+) = [^;]+; \\1 (<|<=) [^;]+; \\1\\+\\+\\).*");
+            boolean down = head.matches("int (\\w+) = [^;]+; \\1 >= 0[^;]*; \\1--\\).*");
+            Due.holds("for (" + head, over || up || down);
+            many++;
+        }
+        Due.holds("loops were seen", many > 40);
     }
 
     /** Methods of some sixty lines, and not one that makes an object but the constructors. */
